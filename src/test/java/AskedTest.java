@@ -253,6 +253,10 @@ public final class AskedTest {
         y.way(0, 1, 1);
         y.keeper(1, 2, 0, 0);
         DUE.is("a match below 0", y.asked(1), 0);
+        FireFromFire first = Due.village(2, 10, 0b10);
+        Due.land(first, "need 1 i=0");
+        first.way(0, 1, 1);
+        DUE.is("of house 0", first.asked(1), 24);
         FireFromFire z = Due.village(3, 10, 0b001);
         Due.land(z, "need 1 i=1;need 3 i=2");
         z.way(0, 1, 1);
@@ -294,6 +298,9 @@ public final class AskedTest {
     private static void freed() {
         FireFromFire x = Due.village(5, 5, 0b10111);
         DUE.is("KEEPERS keep", x.freed(), 0);
+        x.keeper(0, 5, 0, 0);
+        DUE.is("house 0", x.freed(), 1);
+        x.keeper(0, 0, 0, 0);
         x.keeper(1, 2, 0, 0);
         x.keeper(2, 3, 1, 0);
         x.keeper(3, 2, 0, 0);

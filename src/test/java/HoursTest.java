@@ -62,6 +62,7 @@ public final class HoursTest {
         DUE.is("TOLD, hour 0 not told", wouldOf(5, 0, 0xfffffe, 2, 0), 2);
         DUE.is("RARE, 2 others of 2", wouldOf(6, 2, 0, 7, 0), 2);
         DUE.is("RARE, 1 other of 2", wouldOf(6, 2, 0, 6, 0), 1);
+        DUE.is("RARE, another 1 other of 2", wouldOf(6, 2, 0, 3, 0), 1);
         DUE.is("RARE, none of 0", wouldOf(6, 0, 0, 2, 0), 2);
         FireFromFire x = Due.village(1, 5, 1);
         x.keeper(0, 5, 0, 1 | 1 << 2 | 1 << 23);
@@ -85,6 +86,12 @@ public final class HoursTest {
         DUE.is("PAID, wood 5 of 9", wouldOf(4, 9, 0, 1, 0), 3);
         DUE.is("TOLD, 0 alight", wouldOf(5, 0, 1, 1, 0), 0);
         DUE.is("TOLD, 2 alight, not its hour", wouldOf(5, 0, 0, 4, 0), 3);
+        FireFromFire x = Due.village(4, 5, 0b0010);
+        x.way(1, 3, 2);
+        x.keeper(3, 2, 0, 0);
+        DUE.is("ONE, 1 alight", x.would(3, 0), 0);
+        x.light(3, true);
+        DUE.is("ONE, 1 and itself alight", x.would(3, 0), 2);
         DUE.is("RARE, need 3 of 3", wouldOf(6, 3, 0, 5, 1), 3);
         DUE.is("RARE, need 3 of 4", wouldOf(6, 4, 0, 5, 1), 0);
     }
@@ -306,7 +313,7 @@ public final class HoursTest {
     // promise 15
     private static void hand() {
         FireFromFire x = Due.village(2, 10, 0b01);
-        Due.land(x, "burn 3 w=0;need 5 i=0;need 7 w=1&i=1");
+        Due.land(x, "burn 3 w=0;need 5 i=0;need 1 w=1&i=1");
         x.night(0, 0);
         x.night(1, 62);
         x.night(2, 1);

@@ -178,6 +178,10 @@ public final class HousesTest {
         DUE.is("its text stays", x.count(3), 10);
         DUE.is("a fault behind that", Due.land(x, "!"), -4);
         DUE.is("the 5th holds", x.told(0, 0, 3), 5);
+        FireFromFire y = Due.village(1, 10, 1);
+        DUE.is("a fault", Due.land(y, "need 7 w<3;need 8 w=4;x"), -32);
+        DUE.is("behind it a land", Due.land(y, "burn 1 w<3"), 0);
+        DUE.is("has nothing of the fault's", y.told(0, 0, 3), 0);
     }
 
     private static void fault(String text, int place) {
@@ -208,6 +212,11 @@ public final class HousesTest {
         fault("out 5 ", 6);
         fault("out 5  w<1", 6);
         fault("out 5 W<1", 6);
+        fault("out : w<1", 4);
+        fault("out / w<1", 4);
+        fault("out 1/ w<1", 5);
+        fault("out 1: w<1", 5);
+        fault("next / 1 1", 5);
         fault("out 5 w", 7);
         fault("out 5 w~1", 7);
         fault("out 5 w<", 8);
@@ -237,6 +246,7 @@ public final class HousesTest {
         isLand("out 5 w<1");
         isLand("out 05 w<01&w>0|!(h=23&a>1)|m<99");
         isLand("next 1 1 99");
+        isLand("out 0 w<1");
         isLand("next 0 2 00;burn 1 k=0;horn 12 i>4;need 9 a<3");
     }
 
@@ -350,6 +360,9 @@ public final class HousesTest {
         for (int k = 0; k < 9; k++) {
             DUE.is("follows " + k / 3 + k % 3, x.follows(k / 3, k % 3), dues[k]);
         }
+        Due.land(x, "next 1 0 3");
+        DUE.is("a single next", x.follows(1, 0), 3);
+        DUE.is("the land ahead is forgotten", x.follows(0, 0), 10);
         DUE.is("follows(3, 0)", x.follows(3, 0), -1);
         DUE.is("follows(0, 3)", x.follows(0, 3), -1);
         DUE.is("follows(-1, 0)", x.follows(-1, 0), -1);

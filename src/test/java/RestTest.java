@@ -137,11 +137,29 @@ public final class RestTest {
         DUE.is("its horn", x.of(1, 7), 1);
         DUE.is("house 2 anew", x.house(1, false), 2);
         DUE.is("has no way", x.way(1, 2, 1), 0);
+        houseAnew();
         FireFromFire y = Due.village(1, 5, 1);
         y.image();
         Due.land(y, "need 3 w<3");
         y.undo();
         DUE.is("no land held", y.told(0, 0, 3), 0);
+    }
+
+    /** A house that comes where one was that the image does not have. */
+    private static void houseAnew() {
+        FireFromFire x = Due.village(1, 5, 1);
+        Due.land(x, "horn 9 w<3");
+        x.image();
+        x.house(6, false);
+        x.way(0, 1, 9);
+        x.keeper(1, 4, 7, 9);
+        x.go(0, 0);
+        x.undo();
+        x.house(8, false);
+        int[] dues = {8, 0, 0, 0, 0, 0, -5, -5};
+        for (int what = 0; what < 8; what++) {
+            DUE.is("anew: of(1, " + what + ")", x.of(1, what), dues[what]);
+        }
     }
 
     // promise 27: what it doesn't
