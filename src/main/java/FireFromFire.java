@@ -26,7 +26,7 @@ public final class FireFromFire {
     private static final int BOOLEANS = 4;
     /** The letters of tests; a test's step is its letter's place here. */
     private static final String LETTERS = "whikma";
-    private static final int NOT = 6, AND = 7, OR = 8;
+    private static final int FACTS = 6, NOT = 6, AND = 7, OR = 8;
 
     private final Village now = new Village();
     private final Village kept = new Village();
@@ -276,7 +276,10 @@ public final class FireFromFire {
                 || now.houses > ODDS_HOUSES) {
             return NO;
         }
-        odds.reckon(hours, now, n);
+        int courses = odds.begin(now.houses, n);
+        for (int course = 0; course < courses; course++) {
+            odds.follow(hours, now, n, course);
+        }
         long above = what == 0 ? odds.ended : odds.worth;
         long common = Odds.commonDivisor(above, odds.below);
         if (common < 1) {
@@ -591,7 +594,7 @@ public final class FireFromFire {
         final int[] nightWeather = new int[NIGHTS];
         final int[] nightMishaps = new int[NIGHTS];
         /** What the letters of tests stand for, for the house that is asked about. */
-        private final int[] facts = new int[LETTERS.length()];
+        private final int[] facts = new int[FACTS];
 
         Village() {
             for (int h = 0; h < HOUSES; h++) {
@@ -748,7 +751,7 @@ public final class FireFromFire {
         }
     }
 
-    /** A text that was read: its clauses, and what they say of when, each part behind its parts. */
+    /** A text that was read: its clauses, and their E as steps, each !, & and | behind its parts. */
     private static final class Land {
         int clauses = 0;
         int steps = 0;
@@ -805,7 +808,7 @@ public final class FireFromFire {
                     found = found >> 1 & (newest | ~1);
                 } else if (step[k] == OR) {
                     found = found >> 1 | newest;
-                } else if (step[k] >= 0 && step[k] < facts.length) {
+                } else if (step[k] >= 0 && step[k] < FACTS && step[k] < facts.length) {
                     int order = Integer.compare(facts[step[k]], number[k]);
                     boolean is = sign[k] == '<' ? order < 0
                             : sign[k] == '>' ? order > 0 : order == 0;
@@ -840,8 +843,20 @@ public final class FireFromFire {
             place = 0;
             for (int c = 1; c <= CLAUSES; c++) {
                 int word = takeWord();
-                if (word < 0 || !(word == NEXT ? takeNext() : takeRule(word))) {
+                if (word < 0 || !take(' ')) {
                     return false;
+                }
+                if (word == NEXT) {
+                    if (!takeNext()) {
+                        return false;
+                    }
+                } else {
+                    int begin = land.steps;
+                    int n = takeNumber();
+                    if (n < 0 || !take(' ') || !takeEither(0)) {
+                        return false;
+                    }
+                    land.addClause(word, n, begin, land.steps);
                 }
                 if (place >= length) {
                     return true;
@@ -919,32 +934,19 @@ public final class FireFromFire {
         }
 
         private boolean takeNext() {
-            int a = take(' ') ? takeWeather() : -1;
-            if (a < 0) {
+            int a = takeWeather();
+            if (a < 0 || !take(' ')) {
                 return false;
             }
-            int b = take(' ') ? takeWeather() : -1;
-            if (b < 0) {
+            int b = takeWeather();
+            if (b < 0 || !take(' ')) {
                 return false;
             }
-            int n = take(' ') ? takeNumber() : -1;
+            int n = takeNumber();
             if (n < 0) {
                 return false;
             }
             land.addClause(NEXT, n, a, b);
-            return true;
-        }
-
-        private boolean takeRule(int word) {
-            int n = take(' ') ? takeNumber() : -1;
-            if (n < 0 || !take(' ')) {
-                return false;
-            }
-            int begin = land.steps;
-            if (!takeEither(0)) {
-                return false;
-            }
-            land.addClause(word, n, begin, land.steps);
             return true;
         }
 
@@ -1209,8 +1211,8 @@ public final class FireFromFire {
         long below = 1;
         private final Village at = new Village();
 
-        /** Goes every course of n hours; an hour's turn is a weather and a set of mishaps. */
-        void reckon(Hours hours, Village now, int n) {
+        /** How many courses n hours may take: an hour's turn is a weather and a set of mishaps. */
+        int begin(int houses, int n) {
             ended = 0;
             worth = 0;
             below = 1;
@@ -1218,17 +1220,16 @@ public final class FireFromFire {
             for (int k = 0; k < n && k < ODDS_HOURS; k++) {
                 courses *= TURNS;
                 below *= 10;
-                for (int h = 0; h < now.houses && h < ODDS_HOUSES; h++) {
+                for (int h = 0; h < houses && h < ODDS_HOUSES; h++) {
                     below *= 100;
                 }
             }
-            for (int course = 0; course < courses; course++) {
-                at.copy(now);
-                follow(hours, n, course);
-            }
+            return courses;
         }
 
-        private void follow(Hours hours, int n, int course) {
+        /** Goes one course of n hours, and adds what it comes to by how likely it is. */
+        void follow(Hours hours, Village now, int n, int course) {
+            at.copy(now);
             long share = 1;
             int rest = course;
             hours.begin();
@@ -1334,18 +1335,16 @@ public final class FireFromFire {
         }
 
         int tellsBody(int x) {
-            switch (kind) {
-                case FREE:
-                case RARE:
-                    note(40);
-                    int told = plainTells(x);
-                    return told + sendsBody(1);
-                case TOLD:
-                    note(60);
-                    return plainTells(x - i);
-                default:
-                    return plainTells(x);
+            boolean isFree = kind == FREE || kind == RARE;
+            if (isFree) {
+                note(40);
+            } else if (kind == TOLD) {
+                note(60);
             }
+            // from here on all kinds run the body of KEEPER
+            note(12);
+            int told = sendsBody(kind == TOLD ? x - i : x) * 2;
+            return isFree ? told + sendsBody(1) : told;
         }
 
         private int plainKeeps(int x) {
@@ -1356,11 +1355,6 @@ public final class FireFromFire {
         private int plainSends(int x) {
             note(11);
             return keepsBody(x) - v;
-        }
-
-        private int plainTells(int x) {
-            note(12);
-            return sendsBody(x) * 2;
         }
     }
 
