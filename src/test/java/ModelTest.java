@@ -7,11 +7,14 @@ import java.util.Random;
 public final class ModelTest {
     /** java -Druns=100000 .. tries more of them. */
     private static final int RUNS = Integer.getInteger("runs", 3000);
+    /** An object's calls, less those that the longest step may make. */
+    private static final int CALLS = 512 - 70;
     private static final String[] WORDS = {"out", "burn", "horn", "need"};
     private final Random random;
     private final FireFromFire x = new FireFromFire();
     private final Model m = new Model();
     private final int tame;
+    private int used = 0;
     private String call = "";
     private long got = 0;
     private long want = 0;
@@ -28,8 +31,8 @@ public final class ModelTest {
             ModelTest t = new ModelTest(run);
             StringBuilder calls = new StringBuilder();
             if (t.tame > 0) t.prepare(calls);
-            int n = 40 + t.random.nextInt(200);
-            for (int k = 0; k < n; k++) {
+            int n = 40 + t.random.nextInt(400);
+            for (int k = 0; k < n && t.used < CALLS; k++) {
                 int which = t.random.nextInt(34);
                 // a village that is prepared shall seldom grow: odds are of three houses at most
                 if (which == 0 && t.tame > 0 && t.random.nextInt(8) > 0) which = 21;
@@ -60,6 +63,7 @@ public final class ModelTest {
                     int n = 1 + random.nextInt(tame == 1 ? 3 : 9);
                     x.way(a, b, n);
                     m.way(a, b, n);
+                    used++;
                     calls.append("way(" + a + ", " + b + ", " + n + ")\n");
                 }
             }
@@ -69,11 +73,11 @@ public final class ModelTest {
             int row = random.nextInt(1 << 24);
             x.keeper(h, kind, v, row);
             m.keeper(h, kind, v, row);
+            used++;
             calls.append("keeper(" + h + ", " + kind + ", " + v + ", " + row + ")\n");
         }
         feed(someLand());
-        x.land();
-        m.land();
+        set("land() of " + m.text, x.land(), m.land());
     }
 
     private static void note(StringBuilder calls, String name, String args) {
@@ -83,6 +87,7 @@ public final class ModelTest {
     private String both(int wood, boolean is) {
         x.house(wood, is);
         m.house(wood, is);
+        used++;
         return wood + ", " + is;
     }
 
@@ -101,7 +106,7 @@ public final class ModelTest {
     }
 
     private int house() {
-        return random.nextInt(15) == 0 ? num(6) : random.nextInt(Math.max(1, x.count(0)));
+        return random.nextInt(15) == 0 ? num(6) : random.nextInt(Math.max(1, m.now.size()));
     }
 
     private String test() {
@@ -154,13 +159,17 @@ public final class ModelTest {
     }
 
     private void feed(String text) {
-        for (char c : text.toCharArray()) {
-            x.feed(c, 1);
-            m.feed(c, 1);
+        for (int p = 0; p < text.length(); p += 4) {
+            int bytes = 0, n = Math.min(4, text.length() - p);
+            for (int k = p; k < p + n; k++) bytes = bytes << 8 | text.charAt(k);
+            x.feed(bytes, n);
+            m.feed(bytes, n);
+            used++;
         }
     }
 
     private void set(String aCall, long aGot, long aWant) {
+        used++;
         call = aCall;
         got = aGot;
         want = aWant;
@@ -218,8 +227,8 @@ public final class ModelTest {
     }
 
     private void stepHours(int which, int h) {
-        int w = num(2), kind = num(6), v = num(9), row = num((1 << 24) - 1), n = num(x.count(2));
-        int what = num(8), mishaps = random.nextInt(3) == 0 ? num((1 << x.count(0)) - 1) : 0;
+        int w = num(2), kind = num(6), v = num(9), row = num((1 << 24) - 1), n = num(m.now.nights.size());
+        int what = num(8), mishaps = random.nextInt(3) == 0 ? num((1 << m.now.size()) - 1) : 0;
         switch (which) {
             case 9: set("keeper(" + h + ", " + kind + ", " + v + ", " + row + ")",
                     x.keeper(h, kind, v, row), m.keeper(h, kind, v, row)); break;
@@ -253,7 +262,7 @@ public final class ModelTest {
     }
 
     private void stepTapes(int which, int h) {
-        int t = num(5) % 7, o = num(5), i = num(8), j = num(8), n = num(x.count(2)), k = num(6), s = num(4);
+        int t = num(5) % 7, o = num(5), i = num(8), j = num(8), n = num(m.now.nights.size()), k = num(6), s = num(4);
         if (random.nextBoolean()) o = t;
         switch (which) {
             case 27:

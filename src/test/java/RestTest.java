@@ -20,25 +20,18 @@ public final class RestTest {
         DUE.end();
     }
 
-    private static void fill(FireFromFire x, int tape, int sort, long... items) {
-        x.tape(tape, sort, items.length);
-        for (int i = 0; i < items.length; i++) {
-            x.item(tape, i, items[i]);
-        }
-    }
-
     // promise 25
     private static void judge() {
         FireFromFire x = Due.village(3, 5, 0b101);
-        fill(x, 0, 4, 0, 1, 0, 1, 1);
+        Due.fill(x, 0, 4, 0, 1, 0, 1, 1);
         DUE.is("all as told", x.judge(0, 1, 0), -5);
         DUE.is("the first otherwise", x.judge(0, 0, 0), 0);
         DUE.is("the row ends", x.judge(0, 3, 0), 1);
-        fill(x, 0, 4, 0, 1, 0);
+        Due.fill(x, 0, 4, 0, 1, 0);
         DUE.is("two looked at", x.judge(0, 1, 0), 102);
-        fill(x, 0, 4, 1, 0);
+        Due.fill(x, 0, 4, 1, 0);
         DUE.is("two looked at", x.judge(0, 0, 0), 102);
-        fill(x, 0, 4, 1);
+        Due.fill(x, 0, 4, 1);
         DUE.is("one looked at", x.judge(0, 0, 0), 101);
         DUE.is("at the end", x.judge(0, 1, 0), 100);
         DUE.is("beyond the end", x.judge(0, 2, 0), 100);
@@ -48,7 +41,7 @@ public final class RestTest {
         DUE.is("a tape that holds nothing", x.judge(1, 0, 0), 100);
         x.tape(1, 4, 0);
         DUE.is("a row of none", x.judge(1, 0, 0), 100);
-        fill(x, 2, 3, 1, 0, 1);
+        Due.fill(x, 2, 3, 1, 0, 1);
         DUE.is("a row of longs", x.judge(2, 0, 0), -12);
         DUE.is("CAST, whatever the place", x.judge(2, -1, 0), -12);
         DUE.is("BAD ahead of CAST", x.judge(2, 0, 1), -2);
@@ -67,7 +60,7 @@ public final class RestTest {
         Due.land(x, "burn 3 i=0");
         x.night(0, 0);
         x.night(0, 2);
-        fill(x, 0, 4, 1, 1, 0, 0);
+        Due.fill(x, 0, 4, 1, 1, 0, 0);
         DUE.is("behind none", x.judge(0, 0, 0), -5);
         DUE.is("behind one", x.judge(0, 0, 1), -5);
         DUE.is("behind two", x.judge(0, 0, 2), 0);
@@ -168,7 +161,7 @@ public final class RestTest {
         x.image();
         Due.land(x, "need 3 w<3");
         Due.feed(x, "need");
-        fill(x, 0, 2, 7, 8);
+        Due.fill(x, 0, 2, 7, 8);
         x.act(0, 1, 1);
         x.undo();
         DUE.is("lands", x.count(1), 1);
@@ -323,7 +316,7 @@ public final class RestTest {
             {(int) wide, -1, 127, 128, 2}, {wide, -1, 127, 128, 2}, {1, 1, 1, 1, 1}};
         long[] given = {wide, -1, 127, 128, 2};
         for (int sort = 0; sort < 5; sort++) {
-            fill(x, sort, sort, given);
+            Due.fill(x, sort, sort, given);
             for (int i = 0; i < 5; i++) {
                 DUE.is("sort " + sort + ", item " + i, x.read(sort, i), dues[sort][i]);
             }
@@ -355,8 +348,8 @@ public final class RestTest {
     // promise 35
     private static void shift() {
         FireFromFire x = new FireFromFire();
-        fill(x, 0, 2, 1, 2, 3, 4, 5);
-        fill(x, 1, 2, 6, 7, 8);
+        Due.fill(x, 0, 2, 1, 2, 3, 4, 5);
+        Due.fill(x, 1, 2, 6, 7, 8);
         DUE.is("to another", x.shift(0, 1, 1, 0, 2), 2);
         row("to another", x, 1, 2, 3, 8);
         row("from", x, 0, 1, 2, 3, 4, 5);
@@ -382,8 +375,8 @@ public final class RestTest {
     // promise 35: tapes that are not alike
     private static void shiftOfSorts() {
         FireFromFire x = new FireFromFire();
-        fill(x, 0, 2, 1, 2, 3);
-        fill(x, 1, 3, 1, 2, 3);
+        Due.fill(x, 0, 2, 1, 2, 3);
+        Due.fill(x, 1, 3, 1, 2, 3);
         DUE.is("unlike sorts", x.shift(0, 0, 1, 0, 1), -12);
         DUE.is("CAST ahead of PLACE", x.shift(0, 0, 1, 0, -1), -12);
         DUE.is("from nothing", x.shift(2, 0, 1, 0, 1), -11);
@@ -392,8 +385,8 @@ public final class RestTest {
         DUE.is("to tape 6", x.shift(0, 0, 6, 0, 1), -1);
         DUE.is("to tape -1", x.shift(2, 0, -1, 0, 1), -1);
         for (int sort = 0; sort < 5; sort++) {
-            fill(x, 3, sort, 1, 0, 1);
-            fill(x, 4, sort, 0, 0, 0);
+            Due.fill(x, 3, sort, 1, 0, 1);
+            Due.fill(x, 4, sort, 0, 0, 0);
             DUE.is("sort " + sort, x.shift(3, 0, 4, 0, 3), 3);
             row("sort " + sort, x, 4, 1, 0, 1);
         }
