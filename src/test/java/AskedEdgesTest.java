@@ -377,6 +377,24 @@ public final class AskedEdgesTest {
         DUE.is("then it lasts", x.lasts(), NO_WAY);
     }
 
+    // terms 2: "All that follows is asked, goes on from how all is": the hour, and who is under way
+    static void promises19To23GoOnFromHowAllIs() {
+        FireFromFire x = gap();
+        Due.land(x, "burn 1 i=0;horn 9 w<3;need 1 i=1&h=3;out 50 i=0");
+        int[] lasts = {3, 2, 1, 0, NO_WAY};
+        int[] laws = {0, NO_WAY, 0, 0, 0};
+        int[] matches = {0, 0, 1, 1, 0};
+        int[] aboves = {1, 1, 1, 0, 0};
+        int[] belows = {2, 2, 1, 1, 1};
+        for (int hour = 0; hour < 5; hour++) {
+            DUE.is("lasts in hour " + hour, x.lasts(), lasts[hour]);
+            DUE.is("law(2) in hour " + hour, x.law(2), laws[hour]);
+            DUE.is("match(1, 2) in hour " + hour, x.match(1, 2), matches[hour]);
+            fraction("ends in hour " + hour, x, 1, 0, aboves[hour], belows[hour]);
+            x.go(0, 0);
+        }
+    }
+
     // promise 21: "-100001: NONE"
     static void promise21None() {
         FireFromFire x = Due.village(2, 5, 0, "need 1 w<3");

@@ -786,4 +786,20 @@ public final class HourEdgesTest {
             DUE.is("alight behind " + n, x.hand(n, 6), alight[n]);
         }
     }
+
+    // terms 2: "All that follows is asked, goes on from how all is": the hour, and who is under way
+    static void promise15GoesOnFromHowAllIs() {
+        FireFromFire x = sender(2, "horn 9 w<3;burn 1 h=1;burn 2 h=2");
+        x.go(DRY, 0);
+        for (int n = 1; n <= 3; n++) {
+            x.night(0, 0);
+        }
+        DUE.is("burnt in hour 1", x.hand(1, 0), 4);
+        DUE.is("burnt in hours 1 and 2", x.hand(2, 0), 2);
+        DUE.is("not yet brought", x.hand(2, 6), 0b01);
+        DUE.is("brought", x.hand(3, 6), 0b11);
+        x.go(DRY, 0);
+        DUE.is("an hour later it is brought an hour earlier", x.hand(2, 6), 0b11);
+        DUE.is("burnt in hour 2", x.hand(1, 0), 2);
+    }
 }
