@@ -4,15 +4,10 @@ import java.lang.reflect.Field;
 import java.lang.reflect.InvocationTargetException;
 import java.lang.reflect.Method;
 import java.lang.reflect.Modifier;
-import java.nio.charset.StandardCharsets;
-import java.nio.file.Files;
-import java.nio.file.Path;
 import java.util.Random;
 import java.util.TreeSet;
-import java.util.regex.Matcher;
-import java.util.regex.Pattern;
 
-/** The face of the class, the rules of its language that can be looked up, wild calls, the room. */
+/** The face of the class as it is compiled, wild calls, the room that calls take. */
 public final class FormTest {
     private static final Due DUE = new Due("FormTest");
     private static final String[] FACE = {"int house(int,boolean)", "int of(int,int)",
@@ -28,8 +23,6 @@ public final class FormTest {
 
     public static void main(String[] args) throws Exception {
         face();
-        inside();
-        source();
         wildCalls();
         room();
         DUE.end();
@@ -77,61 +70,6 @@ public final class FormTest {
             System.out.println(what + ": " + is + "\ndue: " + due);
         }
         DUE.is(what, is.equals(due) ? 1 : 0, 1);
-    }
-
-    /** Classes inside, their fields, and names of methods that aren't the face's. */
-    private static void inside() {
-        TreeSet<String> names = new TreeSet<>();
-        for (String method : FACE) {
-            names.add(method.replaceAll(".* |\\(.*", ""));
-        }
-        Class<?>[] classes = FireFromFire.class.getDeclaredClasses();
-        DUE.is("twelve classes at most", classes.length <= 11 ? 1 : 0, 1);
-        for (Class<?> c : classes) {
-            DUE.is(c + " is static", Modifier.isStatic(c.getModifiers()) ? 1 : 0, 1);
-            int fields = 0;
-            for (Field f : c.getDeclaredFields()) {
-                boolean isStatic = Modifier.isStatic(f.getModifiers());
-                fields += isStatic ? 0 : 1;
-                DUE.is(f + " is final if static", isStatic && !Modifier.isFinal(f.getModifiers()) ? 1 : 0, 0);
-            }
-            DUE.is(c + " has twenty fields at most", fields <= 20 ? 1 : 0, 1);
-            for (Method m : c.getDeclaredMethods()) {
-                DUE.is("the face's name " + m, names.contains(m.getName()) ? 1 : 0, 0);
-                DUE.is("parameters of " + m, m.getParameterCount() <= 7 ? 1 : 0, 1);
-            }
-        }
-        for (Method m : FireFromFire.class.getDeclaredMethods()) {
-            boolean isPrivate = Modifier.isPrivate(m.getModifiers());
-            DUE.is("the face's name " + m, isPrivate && names.contains(m.getName()) ? 1 : 0, 0);
-        }
-    }
-
-    private static void source() throws Exception {
-        String text = new String(Files.readAllBytes(Path.of("src/main/java/FireFromFire.java")),
-                StandardCharsets.ISO_8859_1);
-        for (int i = 0; i < text.length(); i++) {
-            if (text.charAt(i) > 126) {
-                DUE.is("sign " + i, text.charAt(i), '?');
-            }
-        }
-        String code = text.replaceAll("(?s)/\\*.*?\\*/|//[^\n]*", "");
-        Matcher words = Pattern.compile("\\b(throw|throws|try|catch|synchronized|assert|import|package|"
-                + "instanceof|Exact|addExact|Random|System\\.(?!arraycopy))\\b|->|::").matcher(code);
-        while (words.find()) {
-            DUE.is("'" + words.group() + "' in the source", 1, 0);
-        }
-        int begin = -1;
-        String[] lines = text.split("\n");
-        for (int n = 0; n < lines.length; n++) {
-            if (lines[n].matches(" {4}(    )?\\S.*\\) \\{") && !lines[n].contains(" if (")) {
-                begin = n;
-            }
-            if (lines[n].matches(" {4}(    )?\\}") && begin >= 0) {
-                DUE.is("lines of the method at line " + (begin + 1), n - begin <= 60 ? 1 : 0, 1);
-                begin = -1;
-            }
-        }
     }
 
     /** Any numbers in any state: each call answers. */
